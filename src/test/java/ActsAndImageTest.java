@@ -8,6 +8,7 @@ public final class ActsAndImageTest {
         image();
         imageOfAllThereIs();
         imageIsTakenAnew();
+        imageOfBookAndSix();
         imageOfWoods();
         count();
         Due.end();
@@ -115,7 +116,18 @@ public final class ActsAndImageTest {
         Due.is("29: the TREE", x.of(0, 0), 5);
         Due.is("29: the other's number is free", x.tree(1, 1, 9, 7), 1);
         Due.is("29: a new TREE is new", x.of(1, 3), 7);
-        Due.is("29: a new TREE is new", x.plan(1, 3, 0), 0);
+        x.lean(1, 2, 9, 9);
+        Due.plan(x, 1, 1, 2, 3, 4, 5, 6);
+        x.fell(1);
+        x.undo();
+        Due.is("29: and once more", x.tree(1, 1, 9, 7), 1);
+        int[] of = {1, 1, 9, 7, 0, 0, 0, 1};
+        for (int what = 0; what < 8; what++) {
+            Due.is("6: of a new TREE " + what, x.of(1, what), of[what]);
+        }
+        for (int part = 0; part < 6; part++) {
+            Due.is("6: the PLAN of a new TREE " + part, x.plan(1, part, 0), 0);
+        }
     }
 
     private static void imageOfAllThereIs() {
@@ -190,6 +202,25 @@ public final class ActsAndImageTest {
         x.lean(0, 1, 5, 5);
         x.undo();
         Due.is("29: THE IMAGE is no part of what there is", x.of(0, 4), 0);
+    }
+
+    private static void imageOfBookAndSix() {
+        FellTree x = sixKinds();
+        for (int tree = 0; tree < 6; tree++) {
+            x.plan(tree, 0, tree);
+            x.book(tree);
+        }
+        int right = x.judged(0);
+        Due.is("28: image", x.image(), 6);
+        x.book(-1);
+        for (int tree = 0; tree < 6; tree++) {
+            x.book(6);
+        }
+        Due.is("24: none is RIGHT", x.judged(0), 0);
+        Due.is("29: undo", x.undo(), 6);
+        Due.is("29: the WAYS of the BOOK", x.judged(0), right);
+        Due.is("24: FALL, TRUE and HUNG", right, 3);
+        Due.is("24: SWUNG is TORN OFF", x.judged(1), 2);
     }
 
     private static void imageOfWoods() {

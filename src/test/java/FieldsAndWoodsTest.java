@@ -11,6 +11,7 @@ public final class FieldsAndWoodsTest {
         clausesAtMost();
         tapeToItsEnd();
         emptyTape();
+        manyFaultsThenAWood();
         lettersAndRelations();
         joined();
         holdSplitAndWindTogether();
@@ -209,6 +210,18 @@ public final class FieldsAndWoodsTest {
         Due.is("4: an empty tape is no WOOD", x.wood(), -10);
         Due.is("4: once more", x.wood(), -10);
         Due.is("4: count(1)", x.count(1), 0);
+    }
+
+    private static void manyFaultsThenAWood() {
+        FellTree x = new FellTree();
+        x.tree(0, 0, 27, 3);
+        x.plan(0, 1, 1);
+        String text = "hold 1 t=0;hold 1 t=0;hold 1 t=0;hold 1 t=0;hold 1 t=0;hold 1 t=0;hold 1 t=0;hold 1 t=0;hold 1 t=0";
+        for (int i = 0; i < 3; i++) {
+            Due.is("4: wood", Due.wood(x, text + ";"), -109);
+        }
+        Due.is("4: wood", Due.wood(x, text), 0);
+        Due.is("4: HOLD", x.goes(0, 2), 10);
     }
 
     /** HOLD of TREE 1 (KIND 4, HEIGHT 5, LEAN 6, HOLLOW 7, notch 3): STRIP is 1, so STRENGTH is HOLD. */

@@ -3,6 +3,7 @@ public final class WideAndSureTest {
     public static void main(String[] args) {
         wide();
         wideOfKindsAndWoods();
+        wideByStripOrWedges();
         least();
         leastNone();
         gusts();
@@ -67,6 +68,31 @@ public final class WideAndSureTest {
         Due.is("13: SAT SPLITS", sat.wide(0, 0), 128 + 1 + 2);
         Due.wood(sat, "hold 99 w<8");
         Due.is("13: HOLD by the notch", sat.wide(0, 0), 128 + 1 + 2);
+    }
+
+    private static void wideByStripOrWedges() {
+        FellTree swung = leaning(2, 9);
+        Due.is("13: notch 6 never goes TRUE", swung.wide(0, 0), 143);
+        Due.wood(swung, "hold 1 w=7");
+        Due.is("13: HOLD of notch 7", swung.wide(0, 0), 143);
+        Due.wood(swung, "hold 1 w=6");
+        Due.is("13: HOLD of notch 6", swung.wide(0, 0), 143 + 64);
+        FellTree split = leaning(0, 0);
+        Due.wood(split, "wedge 5;split 40 w=4");
+        Due.is("13: notch 4 SITS BACK", split.wide(0, 3), 239);
+        Due.is("13: notch 4 SPLITS", split.wide(0, 4), 255);
+        FellTree sat = new FellTree();
+        sat.tree(3, 8, 27, 2);
+        sat.lean(0, 4, 4, 0);
+        Due.is("13: by notch 4 alone", sat.wide(0, 0), 8 + 16 + 32);
+        Due.wood(sat, "wedge 1;split 40 w=4");
+        Due.is("13: it SPLITS by 1, is SWUNG by 0", sat.wide(0, 1), 8 + 16 + 32);
+        FellTree hollow = leaning(0, 0);
+        hollow.lean(0, 0, 9, 9);
+        Due.wood(hollow, "split 40 w=0");
+        Due.is("13: 2 by STRIP 0 9, 6 by STRIP 9 0 alone", hollow.wide(0, 0), 199);
+        Due.is("14: STRIP 0 9", hollow.least(0, 2), 9);
+        Due.is("14: STRIP 9 0", hollow.least(0, 6), 90);
     }
 
     private static void least() {
@@ -226,6 +252,9 @@ public final class WideAndSureTest {
         x.tree(0, 0, 1, 3);
         Due.is("12: fell", x.fell(3), 0);
         Due.is("17: it HANGS, others are STANDING, one has gone", x.stand(0), ~(near | Due.places(29, 63)));
+        x.tree(0, 0, 56, 3);
+        x.tree(0, 0, 58, 3);
+        Due.is("17: six of them", x.stand(0), ~(near | Due.places(29, 63, 56, 58)));
         FellTree corner = new FellTree();
         corner.tree(0, 0, 0, 7);
         Due.is("17: in the corner", corner.stand(0), ~Due.places(0, 1, 8, 9));
