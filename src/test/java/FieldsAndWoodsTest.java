@@ -212,16 +212,21 @@ public final class FieldsAndWoodsTest {
         Due.is("4: count(1)", x.count(1), 0);
     }
 
+    /** What was read of WOODS with a FAULT leaves nothing behind. */
     private static void manyFaultsThenAWood() {
         FellTree x = new FellTree();
         x.tree(0, 0, 27, 3);
         x.plan(0, 1, 1);
-        String text = "hold 1 t=0;hold 1 t=0;hold 1 t=0;hold 1 t=0;hold 1 t=0;hold 1 t=0;hold 1 t=0;hold 1 t=0;hold 1 t=0";
-        for (int i = 0; i < 3; i++) {
-            Due.is("4: wood", Due.wood(x, text + ";"), -109);
+        StringBuilder text = new StringBuilder("wedge 8;hold 9 ");
+        for (int i = 0; i < 21; i++) {
+            text.append("t=0|");
         }
-        Due.is("4: wood", Due.wood(x, text), 0);
-        Due.is("4: HOLD", x.goes(0, 2), 10);
+        for (int i = 0; i < 5; i++) {
+            Due.is("4: wood", Due.wood(x, text.toString()), -109);
+        }
+        Due.is("4: wood", Due.wood(x, "hold 1 t=1;hold 4 t=0"), 0);
+        Due.is("4: HOLD", x.goes(0, 2), 5);
+        Due.is("5: wedge", x.told(0), 3);
     }
 
     /** HOLD of TREE 1 (KIND 4, HEIGHT 5, LEAN 6, HOLLOW 7, notch 3): STRIP is 1, so STRENGTH is HOLD. */
