@@ -221,7 +221,7 @@ public final class FieldsAndWoodsTest {
         for (int i = 0; i < 21; i++) {
             text.append("t=0|");
         }
-        for (int i = 0; i < 5; i++) {
+        for (int i = 0; i < 4; i++) {
             Due.is("4: wood", Due.wood(x, text.toString()), -109);
         }
         Due.is("4: wood", Due.wood(x, "hold 1 t=1;hold 4 t=0"), 0);

@@ -12,11 +12,14 @@ public final class RoomTest {
     public static void main(String[] args) {
         FellTree warm = full();
         everything(warm);
-        FellTree x = full();
-        x.image();
+        FellTree[] some = new FellTree[25];
+        for (int i = 0; i < some.length; i++) {
+            some[i] = full();
+            some[i].image();
+        }
         long before = made();
-        for (int i = 0; i < 100; i++) {
-            everything(x);
+        for (int i = 0; i < 4 * some.length; i++) {
+            everything(some[i / 4]);
         }
         long used = made() - before;
         Due.holds("rule 12: 100 rounds of calls made " + used + " bytes", used < 20000);

@@ -145,9 +145,9 @@ public final class TreesAndPlansTest {
     }
 
     private static void forwardAndAsideOfRope() {
-        FellTree x = one(0, 0, 27, 1);
-        Due.wood(x, "rope 5;wedge 4");
         for (int notch = 0; notch < 8; notch++) {
+            FellTree x = one(0, 0, 27, 1);
+            Due.wood(x, "rope 5;wedge 4");
             for (int way = 0; way < 8; way++) {
                 Due.plan(x, 0, notch, 2, 9, 3, way, 6);
                 int behind = (way - notch + 8) % 8;
