@@ -483,15 +483,7 @@ public final class FellTree {
     public int act(int tree, int act, int x) {
         bodies.ran = 0;
         Tree acting = ground.find(tree);
-        if (acting == null) {
-            return 0;
-        }
-        switch (act) {
-            case 0: return bodies.leans(acting, acting.kind, x);
-            case 1: return bodies.holds(acting, acting.kind, x);
-            case 2: return bodies.tells(acting, acting.kind, x);
-            default: return 0;
-        }
+        return acting == null ? 0 : bodies.run(acting, act, x);
     }
 
     public int trace(int i) {
@@ -1105,7 +1097,17 @@ public final class FellTree {
             ran++;
         }
 
-        int leans(Tree tree, int kind, int x) {
+        /** 0, if there is no such act. */
+        int run(Tree tree, int act, int x) {
+            switch (act) {
+                case 0: return leans(tree, tree.kind, x);
+                case 1: return holds(tree, tree.kind, x);
+                case 2: return tells(tree, tree.kind, x);
+                default: return 0;
+            }
+        }
+
+        private int leans(Tree tree, int kind, int x) {
             switch (kind) {
                 case TRUE:
                 case HUNG:
@@ -1120,7 +1122,7 @@ public final class FellTree {
             }
         }
 
-        int holds(Tree tree, int kind, int x) {
+        private int holds(Tree tree, int kind, int x) {
             switch (kind) {
                 case SWUNG:
                 case TORN:
@@ -1135,7 +1137,7 @@ public final class FellTree {
             }
         }
 
-        int tells(Tree tree, int kind, int x) {
+        private int tells(Tree tree, int kind, int x) {
             switch (kind) {
                 case SAT:
                 case SPLIT:

@@ -27,7 +27,7 @@ public final class LanguageTest {
         constants();
         classesInside();
         words();
-        methodsAreShort();
+        methods();
         Due.end();
     }
 
@@ -116,16 +116,20 @@ public final class LanguageTest {
     }
 
     /** A method begins with a line of 4 or 8 blanks that ends with {, and ends with a } as far in. */
-    private static void methodsAreShort() throws IOException {
+    private static void methods() throws IOException {
         String[] lines = source().split("\n");
+        Pattern begins = Pattern.compile("^( {4}| {8})(?!if|for|while|switch)[a-zA-Z].*?(\\w+)\\(.*\\) \\{$");
         for (int i = 0; i < lines.length; i++) {
-            Matcher begins = Pattern.compile("^( {4}| {8})(?!if|for|while|switch)[a-zA-Z].*\\) \\{$").matcher(lines[i]);
-            if (begins.find()) {
+            Matcher method = begins.matcher(lines[i]);
+            if (method.find()) {
                 int end = i;
-                while (end < lines.length && !lines[end].equals(begins.group(1) + "}")) {
+                while (end < lines.length && !lines[end].equals(method.group(1) + "}")) {
                     end++;
                 }
                 Due.holds("rule 11: short, " + lines[i].trim(), end - i <= 60);
+                String body = String.join("\n", Arrays.copyOfRange(lines, i + 1, end));
+                boolean callsItself = Pattern.compile("(?<![.\\w])" + method.group(2) + "\\(").matcher(body).find();
+                Due.holds("rule 8: private, " + lines[i].trim(), !callsItself || lines[i].contains(" private "));
             }
         }
     }
